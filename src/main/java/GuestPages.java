@@ -756,12 +756,15 @@ public final class GuestPages {
 
         /** 12 by its GUEST, and the PAGE. */
         int labelOf(int p) {
+            if (p < 0 || p >= pages) {
+                return NONE;
+            }
             int g = guestOf[p];
             return PAGES * g + p - first[g];
         }
 
         int realmOf(int p) {
-            return realm[guestOf[p]];
+            return p >= 0 && p < pages ? realm[guestOf[p]] : 0;
         }
     }
 
@@ -1253,6 +1256,9 @@ public final class GuestPages {
         }
 
         private int leftmost(int slot) {
+            if (slot < 0 || slot >= SLOTS) {
+                return NONE;
+            }
             int found = NONE;
             int k = hung[slot];
             for (int n = 0; n < MANY && k != NONE; n++) {
@@ -1739,7 +1745,7 @@ public final class GuestPages {
                 }
                 if (advised[p] == 0) {
                     many++;
-                } else if (!(plan.zero && cellsAt(p) == 0) && likeAhead(p) % plan.share == 0) {
+                } else if (!(plan.zero && cellsAt(p) == 0) && plan.share > 0 && likeAhead(p) % plan.share == 0) {
                     many++;
                 }
             }
