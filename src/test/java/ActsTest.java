@@ -267,7 +267,7 @@ public final class ActsTest {
 
     private static void keepsForty() {
         GuestPages x = Check.told("guest 1;");
-        for (int i = 0; i < 50; i++) {
+        for (int i = 0; i < 130; i++) {
             x.ticks(1);
             CHECK.due("kept", x.count(22), Math.min(40, i + 1));
         }
@@ -275,10 +275,10 @@ public final class ActsTest {
         CHECK.due("kept", x.count(22), 40);
         for (int i = 39; i >= 0; i--) {
             CHECK.due("left", x.undo(), i);
-            CHECK.due("the time", x.count(12), i + 10);
+            CHECK.due("the time", x.count(12), i + 90);
         }
         CHECK.due("none left", x.undo(), -1);
-        CHECK.due("the time stays", x.count(12), 10);
+        CHECK.due("the time stays", x.count(12), 90);
     }
 
     private static void images() {
@@ -300,6 +300,7 @@ public final class ActsTest {
             x.ticks(1);
         }
         x.forget();
+        x.note(20, 48);
         Check.feed(x, "zero;");
         CHECK.due("restored", x.restore(), true);
         CHECK.due("as the image", all(x).equals(was), true);

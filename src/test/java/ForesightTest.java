@@ -74,6 +74,20 @@ public final class ForesightTest {
         y.ticks(1);
         y.ticks(1);
         CHECK.due("zeroed by the 46th, the first of the next round", y.quiet(), 46);
+        upToTheLast();
+    }
+
+    /** Forty-eight pages, one scan a tick: the 13th and the 15th are like and pair in the second round. */
+    private static void upToTheLast() {
+        GuestPages x = Check.told("rate 1 1;frames 48;guest 12;guest 12;guest 12;guest 12;page 1 0 13 0 0 0;"
+                + "page 1 2 13 0 0 0;advise 0 0 11;advise 1 0 11;advise 2 0 11;advise 3 0 11;");
+        CHECK.due("the 63rd is too late", x.quiet(), 0);
+        x.ticks(2);
+        CHECK.due("the 61st, too", x.quiet(), 0);
+        x.ticks(1);
+        CHECK.due("the 60th is not", x.quiet(), 60);
+        CHECK.due("two by then", x.then(60, 1), 2);
+        CHECK.due("none ahead of it", x.then(59, 1), 0);
     }
 
     private static void merging() {
@@ -89,8 +103,25 @@ public final class ForesightTest {
         x.undo();
         x.rate(8);
         CHECK.due("scans, not ticks", x.merges(0, 0), 6);
+        mergingAtTheLast();
         CHECK.noSuch("page 4", () -> x.merges(0, 4));
         CHECK.noSuch("guest 1", () -> x.merges(1, 0));
+    }
+
+    /** Two that come to be like, but rest at other times: nine rounds go by before both are awake at once. */
+    private static void mergingAtTheLast() {
+        GuestPages x = Check.told("smart;guest 12;guest 12;guest 12;guest 12;advise 0 0 11;advise 1 0 11;advise 2 0 11;"
+                + "advise 3 0 11;page 3 10 0 0 1 0;page 3 11 0 0 0 7;");
+        Check.orders(x, "scan 48;".repeat(4) + "drop 3 11;scan 48;write 3 11 3 7;" + "scan 48;".repeat(8));
+        // with the same sum as the other one's
+        Check.orders(x, "write 3 11 2 1;write 3 11 3 0;scan 31;");
+        CHECK.due("the 401st is too late", x.merges(3, 11), -1);
+        x.scan(1);
+        CHECK.due("the 400th is not", x.merges(3, 11), 400);
+        CHECK.due("nor for the other one", x.merges(3, 10), 400);
+        Check.orders(x, "scan 100;scan 100;scan 100;scan 99;");
+        CHECK.due("the last but one", x.merges(3, 10), 1);
+        CHECK.due("so it comes", x.scan(1), 1);
     }
 
     private static void ideals() {
@@ -186,6 +217,35 @@ public final class ForesightTest {
         y.scan(2);
         CHECK.due("none of like: least work, then the least rate", y.toRate(1, 0), 1);
         CHECK.due("two frames", y.toRate(1, 1), 2);
+        GuestPages z = Check.told("share 2;rate 1 6;guest 5;page 0 0 1 0 0 0;page 0 1 1 0 0 0;page 0 2 0 0 0 0;"
+                + "page 0 3 0 0 0 0;page 0 4 1 0 0 0;advise 0 0 4;");
+        CHECK.due("5 and 6 use like ones, 6 with less work", z.toRate(2, 0), 6);
+        for (int ticks = 1; ticks <= 8; ticks++) {
+            CHECK.due("by acts, behind " + ticks, z.toRate(ticks, 0), rateByActs(z, ticks));
+        }
+    }
+
+    /** The best of rates 1 to 6 by setting each and letting ticks go by. */
+    private static int rateByActs(GuestPages x, int ticks) {
+        int best = 0;
+        int fewest = 0;
+        int least = 0;
+        for (int rate = 1; rate <= 6; rate++) {
+            boolean set = x.rate(rate) != -1;
+            x.ticks(ticks);
+            int used = x.count(1);
+            int work = x.count(13);
+            x.undo();
+            if (set) {
+                x.undo();
+            }
+            if (best == 0 || used < fewest || used == fewest && work < least) {
+                best = rate;
+                fewest = used;
+                least = work;
+            }
+        }
+        return best;
     }
 
     private static void notes() {
@@ -205,6 +265,7 @@ public final class ForesightTest {
         CHECK.due("status stays", x.count(27), 5);
         CHECK.due("once more", x.note(0, 48), 1);
         CHECK.due("no acts", x.count(22), 0);
+        CHECK.due("as little as can be", x.note(0, 0), 2);
     }
 
     private static void guesses() {
@@ -246,6 +307,14 @@ public final class ForesightTest {
         x.note(20, 2);
         CHECK.due("no guess", x.look(0, 1, 0, 0), -1);
         CHECK.due("none unlike", x.look(0, 1, 0, 1), 0);
+        GuestPages y = Check.told("rate 1 1;guest 2;page 0 0 15 0 0 0;page 0 1 2 0 0 0;advise 0 0 1;");
+        CHECK.due("the guess 15 counts", y.look(0, 1, 0, 0), 4);
+        GuestPages z = Check.told("rate 1 1;guest 11;page 0 0 1 0 0 0;page 0 8 2 0 0 0;advise 0 0 10;");
+        CHECK.due("up to the 20th", z.look(0, 8, 0, 0), 20);
+        CHECK.due("two unlike there", z.look(0, 8, 0, 1), 2);
+        GuestPages w = Check.told("rate 1 1;guest 11;page 0 0 1 0 0 0;page 0 9 2 0 0 0;advise 0 0 10;");
+        CHECK.due("the 21st is too late", w.look(0, 9, 0, 0), 1);
+        CHECK.due("none unlike up to there", w.look(0, 9, 0, 1), 1);
         CHECK.noSuch("cell -1", () -> x.look(0, 0, -1, 0));
         CHECK.noSuch("what 2", () -> x.look(0, 0, 0, 2));
         CHECK.noSuch("guest 1", () -> x.look(1, 0, 0, 0));

@@ -142,6 +142,14 @@ public final class QuestionsTest {
         CHECK.noSuch("chain(1, -1), which is free", () -> x.chain(1, -1));
         CHECK.noSuch("chain(24, -1)", () -> x.chain(24, -1));
         CHECK.noSuch("chain(-1, -1)", () -> x.chain(-1, -1));
+        GuestPages y = Check.told("frames 48;guest 12;guest 1;guest 1;guest 1;");
+        CHECK.noSuch("chain(48, -1)", () -> y.chain(48, -1));
+        CHECK.noSuch("frame(48, -1)", () -> y.frame(48, -1));
+        CHECK.noSuch("guest(4, 0)", () -> y.guest(4, 0));
+        CHECK.noSuch("read(4, 0, 0)", () -> y.read(4, 0, 0));
+        Check.machine(y, "guest 1;");
+        CHECK.noSuch("guests of another machine", () -> y.read(1, 0, 0));
+        CHECK.noSuch("pages of another machine", () -> y.read(0, 1, 0));
         x.drop(0, 0);
         CHECK.due("a merged one may have one page", x.chain(0, -1), 3);
         x.drop(0, 1);

@@ -94,7 +94,15 @@ public final class TextsTest {
         CHECK.due("a fault: the image stays", x.restore(), true);
         CHECK.due("status is of the image", x.count(25), 0);
         Check.machine(x, "x");
+        Check.machine(x, "zero;smart;guest 3;guest 3;page 0 0 1 1 1 1;page 0 1 1 1 1 1;advise 0 0 1;");
+        x.scan(7);
         CHECK.due("made anew", Check.machine(x, "guest 1;"), 0);
+        CHECK.due("anew: guests", x.count(3), 1);
+        CHECK.due("anew: pages", x.count(4), 1);
+        CHECK.due("anew: knots", x.count(8) + x.count(9), 0);
+        CHECK.due("anew: befell", x.page(0, 0, 3), 0);
+        CHECK.due("anew: sum", x.page(0, 0, 4), -1);
+        CHECK.due("anew: age", x.page(0, 0, 5), 0);
         CHECK.due("anew: frames", x.count(0), 24);
         CHECK.due("anew: time", x.count(12), 0);
         CHECK.due("anew: scanned", x.count(14), 0);
@@ -184,6 +192,9 @@ public final class TextsTest {
         faultDue("zerosmart;", 1, 0);
         faultDue("zero smart;", 1, 5);
         faultDue("Zero;", 1, 0);
+        faultDue("xero;", 1, 0);
+        faultDue("zera;", 1, 0);
+        faultDue("zer;", 1, 0);
         faultDue("zerO;", 1, 0);
         faultDue("frames;", 1, 6);
         faultDue("zero\t;", 1, 4);
