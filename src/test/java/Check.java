@@ -40,6 +40,48 @@ final class Check {
         }
     }
 
+    /** A call that is refused: NONE, one more in one STATUS, and nothing else changes. */
+    void refuses(String what, GuestPages x, int status, Call call) {
+        String was = Snap.of(x);
+        int[] counted = Snap.status(x);
+        due(what, call.answer(), GuestPages.NONE);
+        counted[status]++;
+        same(what, x, was, counted);
+    }
+
+    /** NoSuchElementException, and nothing changes, STATUS neither. */
+    void noSuch(String what, GuestPages x, Call call) {
+        String was = Snap.of(x);
+        int[] counted = Snap.status(x);
+        noSuch(what, call);
+        same(what, x, was, counted);
+    }
+
+    /** IllegalArgumentException, and nothing changes, STATUS neither. */
+    void illegal(String what, GuestPages x, Call call) {
+        String was = Snap.of(x);
+        int[] counted = Snap.status(x);
+        illegal(what, call);
+        same(what, x, was, counted);
+    }
+
+    /** A call that only asks. */
+    void asks(String what, GuestPages x, Call call, long want) {
+        String was = Snap.of(x);
+        int[] counted = Snap.status(x);
+        due(what, call.answer(), want);
+        same(what, x, was, counted);
+    }
+
+    private void same(String what, GuestPages x, String was, int[] counted) {
+        int[] now = Snap.status(x);
+        for (int i = 0; i < 3; i++) {
+            due(what + ": STATUS " + i, now[i], counted[i]);
+        }
+        due(what + ": fault()", now[3], counted[3]);
+        due(what + ": all else is as it was", Snap.of(x).equals(was), true);
+    }
+
     void end() {
         System.out.println(wrong == 0 ? "all answers are as due" : wrong + " answers are not as due");
         System.exit(wrong == 0 ? 0 : 1);
