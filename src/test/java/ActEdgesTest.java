@@ -18,6 +18,7 @@ public final class ActEdgesTest {
         droppedLeavesItsKnot();
         advisesAtTheirEdges();
         advisedNoMore();
+        splitOffIntoAUsedFrame();
         advisedNoMoreWithoutRoom();
         candidatesLeave();
         scansOneToHundred();
@@ -29,6 +30,7 @@ public final class ActEdgesTest {
         refusedIsNoAct();
         imageAndRestore();
         imageOfFortyActs();
+        imageOfNotes();
         imageOfNothing();
         CHECK.end();
     }
@@ -324,6 +326,52 @@ public final class ActEdgesTest {
         CHECK.due("merged again", x.count(5), 2);
     }
 
+    // a FRAME is TAKEN, which gets the CELLS: whatever was in it
+    private static void splitOffIntoAUsedFrame() {
+        for (int way = 0; way < 3; way++) {
+            GuestPages x = merged();
+            x.write(0, 4, 0, 11);
+            x.write(0, 4, 2, 12);
+            CHECK.due("frame 1", x.page(0, 4, 0), 1);
+            x.drop(0, 4);
+            if (way == 0) {
+                CHECK.due("advised no more", x.advise(0, 0, 0, false), 1);
+            } else if (way == 1) {
+                CHECK.due("written as it was", x.write(0, 0, 3, 4), 2);
+            } else {
+                CHECK.due("a copy of itself", x.copy(0, 0, 0, 0), 2);
+            }
+            CHECK.due("frame 1 again", x.page(0, 0, 0), 1);
+            for (int cell = 0; cell < 4; cell++) {
+                CHECK.due("its cells", x.read(0, 0, cell), cell + 1);
+            }
+            CHECK.due("an absent one", x.write(0, 4, 1, 3), 1);
+            x.drop(0, 0);
+            x.drop(0, 4);
+            CHECK.due("an absent one, in a frame that was used", x.write(0, 4, 1, 3), 1);
+            CHECK.due("frame 1 again", x.page(0, 4, 0), 1);
+            for (int cell = 0; cell < 4; cell++) {
+                CHECK.due("all 0 at first", x.read(0, 4, cell), cell == 1 ? 3 : 0);
+            }
+        }
+        // one that was never used
+        GuestPages y = Check.told("frames 9;guest 2;page 0 0 7 6 5 4;page 0 1 7 6 5 4;advise 0 0 1;");
+        y.scan(4);
+        y.write(0, 1, 0, 1);
+        y.copy(0, 1, 0, 0);
+        y.scan(2);
+        CHECK.due("merged again", y.page(0, 1, 1), 1);
+        y.drop(0, 1);
+        GuestPages z = Check.told("frames 9;guest 3;page 0 0 2 2 2 2;page 0 1 7 6 5 4;page 0 2 7 6 5 4;advise 0 1 2;");
+        z.scan(4);
+        z.drop(0, 0);
+        CHECK.due("both", z.advise(0, 1, 2, false), 2);
+        CHECK.due("in the frame of another one", z.page(0, 1, 0), 0);
+        for (int cell = 0; cell < 4; cell++) {
+            CHECK.due("its cells", z.read(0, 1, cell), 7 - cell);
+        }
+    }
+
     // where that can't be it ends, and that one and those behind it stay as they are
     private static void advisedNoMoreWithoutRoom() {
         GuestPages x = Check.told("frames 4;guest 6;page 0 1 1 0 0 0;page 0 2 1 0 0 0;page 0 3 1 0 0 0;page 0 5 2 0 0 0;"
@@ -587,6 +635,33 @@ public final class ActEdgesTest {
             CHECK.due("the time", x.count(12), 17 + left);
         }
         CHECK.due("none", x.undo(), -1);
+    }
+
+    // what is NOTED: TICKS and FRAMES of each of eight
+    private static void imageOfNotes() {
+        String text = "rate 1 1;guest 2;page 0 0 1 0 0 0;page 0 1 1 0 0 0;advise 0 0 1;";
+        for (int last = 0; last < 8; last++) {
+            GuestPages x = Check.told(text);
+            for (int i = 0; i < 8; i++) {
+                x.note(i == last ? 4 : 3, i == last ? 1 : 2);
+            }
+            CHECK.due("so", x.guess(0, 0, 0, 2), 1);
+            x.image();
+            x.forget();
+            for (int i = 0; i < 8; i++) {
+                x.note(i == last ? 3 : 4, 2);
+            }
+            CHECK.due("not so", x.guess(0, 0, 0, 2), 0);
+            x.restore();
+            CHECK.due("so again", x.guess(0, 0, 0, 2), 1);
+            x.forget();
+            for (int i = 0; i < 8; i++) {
+                x.note(i == last ? 4 : 3, 2);
+            }
+            CHECK.due("not so", x.guess(0, 0, 0, 2), 0);
+            x.restore();
+            CHECK.due("so once more", x.guess(0, 0, 0, 2), 1);
+        }
     }
 
     // promise 36: false: there is none; promise 3: the image is gone

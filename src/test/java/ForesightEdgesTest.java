@@ -16,6 +16,7 @@ public final class ForesightEdgesTest {
         thenOfSixty();
         thenAsActs();
         quietOfSixty();
+        mergesAtOnceOrNever();
         mergesOfFourHundred();
         idealByShare();
         idealOfOthers();
@@ -23,6 +24,7 @@ public final class ForesightEdgesTest {
         probesAtTheirEdges();
         probesAsActs();
         toAdviseAtItsEdges();
+        toAdviseThatGuestAlone();
         toRateAtItsEdges();
         notesOfEight();
         notedAtZeroAndTwenty();
@@ -127,8 +129,51 @@ public final class ForesightEdgesTest {
         CHECK.asks("joined by the next", joins, joins::quiet, 1);
     }
 
+    /** Two that are like at last, but rest by turns, so that they don't wait in the same round for long. */
+    private static GuestPages restingByTurns() {
+        GuestPages x = Check.told("smart;frames 48;guest12;guest12;guest12;guest12;advise 0 0 11;advise 1 0 11;"
+                + "advise 2 0 11;advise 3 0 11;");
+        x.write(0, 0, 2, 1);
+        for (int i = 0; i < 10; i++) {
+            x.scan(48);
+        }
+        x.write(3, 11, 3, 7);
+        for (int i = 0; i < 4; i++) {
+            x.scan(48);
+        }
+        x.write(0, 0, 2, 0);
+        x.write(0, 0, 3, 7);
+        return x;
+    }
+
     // MERGES: behind how many SCANS (0 to 400) a PAGE lies in a MERGED FRAME first; none
     private static void mergesOfFourHundred() {
+        GuestPages y = restingByTurns();
+        int far = 0;
+        while (far < 2000 && y.page(0, 0, 1) == 0) {
+            y.scan(1);
+            far++;
+        }
+        CHECK.due("merged beyond 500, at the other one's turn", far > 500 && far % 48 == 0, true);
+        CHECK.due("both", y.page(3, 11, 1), 1);
+        GuestPages x = restingByTurns();
+        for (int page = 0; page < 12; page++) {
+            int p = page;
+            CHECK.asks("beyond", x, () -> x.merges(p % 2 * 3, p), -1);
+        }
+        for (int left = far; left > 403; left--) {
+            x.scan(1);
+        }
+        int[] due = {-1, -1, -1, 400, 399, 398};
+        for (int i = 0; i < due.length; i++) {
+            CHECK.asks("behind " + (403 - i), x, () -> x.merges(0, 0), due[i]);
+            CHECK.asks("the other one, behind " + (403 - i), x, () -> x.merges(3, 11), due[i]);
+            x.scan(1);
+        }
+    }
+
+    // (0 to 400): 0, it lies in one; none, it never does
+    private static void mergesAtOnceOrNever() {
         GuestPages x = Check.told(FEW);
         int[] due = {6, 6, -1, -1};
         for (int p = 0; p < 4; p++) {
@@ -307,6 +352,24 @@ public final class ForesightEdgesTest {
         x.advise(1, 0, 1, true);
         CHECK.due("with guest 1's advised, guest 2", x.toAdvise(40, 0), 2);
         CHECK.due("four", x.toAdvise(40, 1), 4);
+    }
+
+    // were all its PAGES ADVISED now: neither less nor more
+    private static void toAdviseThatGuestAlone() {
+        // guest 1's first page would be laid together with guest 0's, were it advised, too
+        GuestPages x = Check.told("guest 1;guest 1;guest 1;page 0 0 5 0 0 0;page 1 0 5 0 0 0;");
+        CHECK.due("none by itself: the least", x.toAdvise(40, 0), 0);
+        CHECK.due("two stay", x.toAdvise(40, 1), 2);
+        // guest 0's last page would be, were it advised with guest 1's
+        GuestPages y = Check.told("guest 2;guest 2;guest 2;page 0 1 5 0 0 0;page 1 0 5 0 0 0;page 1 1 6 0 0 0;page 2 0 6 0 0 0;");
+        CHECK.due("two stay, two stay", y.toAdvise(40, 1), 4);
+        // first and last of a guest
+        GuestPages z = Check.told("guest 3;guest 12;guest 3;page 1 0 5 0 0 0;page 1 11 5 0 0 0;page 0 0 1 0 0 0;");
+        CHECK.due("guest 1", z.toAdvise(40, 0), 1);
+        CHECK.due("two are left", z.toAdvise(40, 1), 2);
+        GuestPages full = Check.told("guest12;guest12;guest12;guest12;page 3 0 5 0 0 0;page 3 11 5 0 0 0;");
+        CHECK.due("the last guest of forty-eight pages", full.toAdvise(40, 0), 3);
+        CHECK.due("one is left", full.toAdvise(40, 1), 1);
     }
 
     // TO RATE: the RATE (LEAST to MOST); (1 to 20); of like ones least WORK is done, then the least

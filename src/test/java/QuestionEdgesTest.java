@@ -1,3 +1,6 @@
+import java.util.ArrayList;
+import java.util.List;
+
 /** Promises 6 to 13: the first and the last that can be asked, and those next to them that can't. */
 public final class QuestionEdgesTest {
     private static final Check CHECK = new Check();
@@ -18,7 +21,9 @@ public final class QuestionEdgesTest {
         reads();
         pages();
         frames();
+        framesAreLeft();
         chains();
+        chainsAreLeft();
         knots();
         likes();
         CHECK.end();
@@ -210,6 +215,80 @@ public final class QuestionEdgesTest {
         z.scan(1);
         CHECK.due("the first now", z.frame(0, 0), 1);
         CHECK.due("the last now", z.frame(0, 2), 0);
+    }
+
+    // in the order in which they came: whichever leaves, the others stay in theirs
+    private static void framesAreLeft() {
+        for (int gone = 0; gone < 8; gone++) {
+            for (int other = 0; other < 8; other++) {
+                GuestPages x = Check.told("share 8;guest 8;page 0 0 1 0 0 0;page 0 1 1 0 0 0;page 0 2 1 0 0 0;"
+                        + "page 0 3 1 0 0 0;page 0 4 1 0 0 0;page 0 5 1 0 0 0;page 0 6 1 0 0 0;page 0 7 1 0 0 0;"
+                        + "advise 0 0 7;");
+                x.scan(16);
+                List<Integer> due = new ArrayList<>(List.of(0, 1, 2, 3, 4, 5, 6, 7));
+                x.drop(0, gone);
+                due.remove(Integer.valueOf(gone));
+                rowDue(x, due);
+                if (other != gone) {
+                    x.write(0, other, 0, 2);
+                    due.remove(Integer.valueOf(other));
+                    rowDue(x, due);
+                    x.copy(0, other, 0, due.get(0));
+                    x.scan(8);
+                    due.add(other);
+                    rowDue(x, due);
+                }
+            }
+        }
+    }
+
+    private static void rowDue(GuestPages x, List<Integer> due) {
+        CHECK.due("how many", x.frame(0, -1), due.size());
+        for (int i = 0; i < due.size(); i++) {
+            CHECK.due("page " + i, x.frame(0, i), due.get(i));
+        }
+        CHECK.noSuch("no more", () -> x.frame(0, due.size()));
+    }
+
+    // in the order in which they came: whichever FRAME leaves, the others stay in theirs
+    private static void chainsAreLeft() {
+        for (int gone = 0; gone < 5; gone++) {
+            StringBuilder text = new StringBuilder("share 2;guest 12;");
+            for (int p = 0; p < 10; p++) {
+                text.append("page 0 ").append(p).append(" 1 2 3 4;");
+            }
+            GuestPages x = Check.told(text + "advise 0 0 11;");
+            x.scan(24);
+            List<Integer> due = new ArrayList<>(List.of(0, 2, 4, 6, 8));
+            chainDue(x, due);
+            x.drop(0, 2 * gone);
+            chainDue(x, due);
+            if (gone % 2 == 0) {
+                x.drop(0, 2 * gone + 1);
+            } else {
+                x.write(0, 2 * gone + 1, 0, 9);
+                x.drop(0, 2 * gone + 1);
+            }
+            due.remove(Integer.valueOf(2 * gone));
+            chainDue(x, due);
+            // a pair that comes later is the last, in whichever frames
+            x.copy(0, 10, 0, due.get(0));
+            x.copy(0, 11, 0, due.get(0));
+            x.scan(24);
+            due.add(x.page(0, 10, 0));
+            chainDue(x, due);
+        }
+    }
+
+    private static void chainDue(GuestPages x, List<Integer> due) {
+        for (int frame : due) {
+            CHECK.due("how many", x.chain(frame, -1), due.size());
+            for (int i = 0; i < due.size(); i++) {
+                CHECK.due("frame " + i, x.chain(frame, i), due.get(i));
+            }
+            CHECK.noSuch("no more", () -> x.chain(frame, due.size()));
+        }
+        CHECK.due("which", x.knot(0, true, 0, 0), due.get(0));
     }
 
     // promise 11: no such FRAME, it isn't MERGED, there is none

@@ -8,6 +8,7 @@ public final class ScanEdgesTest {
         leavesWithNoneBelow();
         leavesWithOneBelow();
         leavesWithTwoBelow();
+        leavesWherever();
         stableKnotsLeave();
         candidatesOfAllPages();
         candidatesFallingToo();
@@ -157,6 +158,99 @@ public final class ScanEdgesTest {
         knotDue(z, false, 2, 3, 2);
         knotDue(z, false, 3, 5, 3);
         knotDue(z, false, 4, 0, 0);
+    }
+
+    /** A knot of a tree as the document tells it; with none left or right: null. */
+    private static final class Knot {
+        final int page;
+        final int cell;
+        Knot left;
+        Knot right;
+
+        Knot(int page, int cell) {
+            this.page = page;
+            this.cell = cell;
+        }
+    }
+
+    private static Knot inserted(Knot knot, int page, int cell) {
+        if (knot == null) {
+            return new Knot(page, cell);
+        }
+        if (cell < knot.cell) {
+            knot.left = inserted(knot.left, page, cell);
+        } else {
+            knot.right = inserted(knot.right, page, cell);
+        }
+        return knot;
+    }
+
+    /** What comes to the place of a knot that LEAVES. */
+    private static Knot heirOf(Knot knot) {
+        if (knot.left == null || knot.right == null) {
+            return knot.left == null ? knot.right : knot.left;
+        }
+        Knot heir = knot.right;
+        while (heir.left != null) {
+            heir = heir.left;
+        }
+        heir.right = without(knot.right, heir.cell);
+        heir.left = knot.left;
+        return heir;
+    }
+
+    private static Knot without(Knot knot, int cell) {
+        if (knot.cell == cell) {
+            return heirOf(knot);
+        }
+        if (cell < knot.cell) {
+            knot.left = without(knot.left, cell);
+        } else {
+            knot.right = without(knot.right, cell);
+        }
+        return knot;
+    }
+
+    private static int treeDue(GuestPages x, Knot knot, int from, int above) {
+        if (knot == null) {
+            return from;
+        }
+        int i = treeDue(x, knot.left, from, above + 1);
+        knotDue(x, false, i, knot.page, above);
+        return treeDue(x, knot.right, i + 1, above + 1);
+    }
+
+    /** 1 to 12, each once, in an order by a number. */
+    private static int[] mixed(int by) {
+        int[] cells = new int[12];
+        int seed = by;
+        for (int i = 0; i < 12; i++) {
+            seed = (seed * 421 + 1663) % 7875;
+            int at = seed % (i + 1);
+            cells[i] = cells[at];
+            cells[at] = i + 1;
+        }
+        return cells;
+    }
+
+    /** Trees of twelve in many orders: one after the other leaves, wherever it is, until none is left. */
+    private static void leavesWherever() {
+        for (int by = 0; by < 60; by++) {
+            int[] cells = mixed(by);
+            GuestPages x = waiting(cells);
+            Knot root = null;
+            for (int p = 0; p < 12; p++) {
+                root = inserted(root, p, cells[p]);
+            }
+            CHECK.due("all of them", treeDue(x, root, 0, 0), 12);
+            for (int n = 0; n < 12; n++) {
+                int p = (by + n * 5) % 12;
+                CHECK.due("leaves", x.advise(0, p, p, false), 1);
+                root = without(root, cells[p]);
+                CHECK.due("so many are left", treeDue(x, root, 0, 0), 11 - n);
+                CHECK.due("not more", x.knot(0, false, -1, 0), 11 - n);
+            }
+        }
     }
 
     /** Pairs in the order 5, 3, 7, 9: the stable knots are laid as the candidates above. */
@@ -420,6 +514,12 @@ public final class ScanEdgesTest {
         rateDue(1, 16, 3, 1, 0, 1);
         rateDue(1, 16, 2, 4, 0, 1);
         rateDue(1, 16, 1, 4, 0, 1);
+        rateDue(1, 16, 5, 4, 0, 2);
+        rateDue(2, 16, 7, 4, 0, 3);
+        rateDue(2, 16, 5, 4, 0, 2);
+        rateDue(2, 16, 4, 4, 0, 2);
+        rateDue(7, 16, 15, 4, 0, 7);
+        rateDue(7, 16, 16, 4, 0, 8);
         rateDue(3, 16, 7, 4, 0, 3);
         rateDue(3, 16, 6, 4, 0, 3);
         rateDue(3, 16, 5, 4, 0, 3);

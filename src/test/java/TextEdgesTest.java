@@ -28,7 +28,9 @@ public final class TextEdgesTest {
         machineTakesTheFirstBytes();
         machineWithAFault();
         machineWithout();
+        machineBehindQuestions();
         ordersEach();
+        ordersOfFourDigits();
         ordersEndTooSoon();
         ordersOfTheWholeTape();
         ordersEmpty();
@@ -522,6 +524,30 @@ public final class TextEdgesTest {
         CHECK.due("an empty text", Snap.of(y).equals(Snap.of(new GuestPages())), true);
     }
 
+    // all anew: nothing of what was asked about the machine ahead is left
+    private static void machineBehindQuestions() {
+        String text = "frames 9;guest 2;guest 4;page 1 3 1 0 0 0;advise 0 0 1;advise 1 0 3;";
+        String[] ahead = {
+            "smart;zero;guest 4;page 0 0 1 0 0 0;page 0 1 1 0 0 0;page 0 2 5 0 0 0;page 0 3 9 0 0 0;advise 0 0 3;",
+            "guest 2;guest 12 1;page 1 0 3 3 3 3;page 1 11 3 3 3 3;page 1 4 8 0 0 0;advise 0 0 1;advise 1 0 11;",
+            "frames 2;rate 3 9;guest 6 2;page 0 5 1 0 0 0;page 0 4 1 0 0 0;advise 0 1 5;"};
+        for (String was : ahead) {
+            for (int ticks = 0; ticks <= 60; ticks += 3) {
+                GuestPages x = Check.told(was);
+                x.scan(4);
+                x.then(ticks, 0);
+                CHECK.due("anew", Check.machine(x, text), 0);
+                GuestPages y = Check.told(text);
+                CHECK.due("as a new one", Snap.of(x).equals(Snap.of(y)), true);
+                x.write(0, 0, 3, 1);
+                y.write(0, 0, 3, 1);
+                x.scan(20);
+                y.scan(20);
+                CHECK.due("it goes on as a new one", Snap.of(x).equals(Snap.of(y)), true);
+            }
+        }
+    }
+
     /** For orders: twelve pages, one other guest. */
     private static GuestPages twelve() {
         return Check.told("frames 14;guest 12;guest 1 1;page 0 0 1 2 3 4;page 0 11 5 6 7 8;page 1 0 1 2 3 4;"
@@ -596,6 +622,25 @@ public final class TextEdgesTest {
         Check.orders(x, "write 0 0 2 9;copy 0 1 0 0;");
         CHECK.due("which cell, then what", x.read(0, 0, 2), 9);
         CHECK.due("the first of copy is written", x.read(0, 1, 2), 9);
+    }
+
+    // 2: a NUMBER of 4 digits or more, at each place where a NUMBER can stand
+    private static void ordersOfFourDigits() {
+        String[] orders = {"write 0 0 0 0;", "copy 0 0 0 0;", "drop 0 0;", "scan 1;", "tick 1;"};
+        for (String order : orders) {
+            for (int i = 0; i < order.length(); i++) {
+                if (order.charAt(i) == '0' || order.charAt(i) == '1') {
+                    String digit = order.substring(i, i + 1);
+                    String ahead = order.substring(0, i);
+                    String behind = order.substring(i + 1);
+                    ordersDue(ahead + "00" + digit + behind, 1, -1);
+                    ordersDue(ahead + "000" + digit + behind, -12, i);
+                    ordersDue(ahead + "0000" + digit + behind, -12, i);
+                    ordersDue(ahead + "1000" + behind, -12, i);
+                    ordersDue(ahead + "4294967296" + behind, -12, i);
+                }
+            }
+        }
     }
 
     // 1: the text's length where it ends too soon, as for a machine
