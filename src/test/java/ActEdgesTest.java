@@ -13,6 +13,7 @@ public final class ActEdgesTest {
         writesAtTheirEdges();
         noFrameIsFree();
         fullOfFortyEight();
+        keptWhole();
         copiesAtTheirEdges();
         dropsAtTheirEdges();
         droppedLeavesItsKnot();
@@ -201,6 +202,35 @@ public final class ActEdgesTest {
         CHECK.due("the eighth", x.frame(40, 7), 47);
         CHECK.due("no more advised", x.advise(0, 0, 11, false), 12);
         CHECK.due("split off: seven of the first frame's, four of the second's", x.count(18), 7 + 4);
+    }
+
+    /** All rows and trees are kept by acts and by an image, to the last of forty-eight. */
+    private static void keptWhole() {
+        GuestPages x = Check.told("frames 48;share 8;rate 16 16;guest12;guest12;guest12;guest12;advise 0 0 11;advise 1 0 11;"
+                + "advise 2 0 11;advise 3 0 11;");
+        StringBuilder text = new StringBuilder();
+        for (int i = 0; i < 48; i++) {
+            text.append("write").append(i / 12).append(' ').append(i % 12).append(" 0 3;");
+        }
+        CHECK.due("one act", Check.orders(x, text.toString()) + x.count(22), 49);
+        CHECK.due("laid together", x.scan(48) + x.scan(48), 42);
+        String was = Snap.of(x);
+        x.write(3, 11, 0, 9);
+        x.undo();
+        CHECK.due("as ahead of a write", Snap.of(x).equals(was), true);
+        x.advise(3, 0, 11, false);
+        x.undo();
+        CHECK.due("as ahead of an advise", Snap.of(x).equals(was), true);
+        x.image();
+        for (int i = 0; i < 48; i++) {
+            x.drop(i / 12, i % 12);
+        }
+        CHECK.due("none is left", x.count(1), 0);
+        CHECK.due("restored", x.restore(), true);
+        CHECK.due("as the image", Snap.of(x).equals(was), true);
+        CHECK.due("refused", Check.orders(x, "drop 3 11;drop 2 0;scan 100;drop 3 11;drop 3 11;"), -103);
+        CHECK.due("as ahead of orders", Snap.of(x).equals(was), true);
+        CHECK.due("STATUS goes by", x.count(26), 1);
     }
 
     // promise 15: as write(); NONE (STATUS 1): no FRAME is free

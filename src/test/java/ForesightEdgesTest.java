@@ -20,12 +20,14 @@ public final class ForesightEdgesTest {
         mergesOfFourHundred();
         idealByShare();
         idealOfOthers();
+        idealOfMorePagesThanFrames();
         riskByWhatIsFree();
         probesAtTheirEdges();
         probesAsActs();
         toAdviseAtItsEdges();
         toAdviseThatGuestAlone();
         toRateAtItsEdges();
+        toRateOfLikeOnes();
         notesOfEight();
         notedAtZeroAndTwenty();
         guessesOfSixteen();
@@ -221,6 +223,13 @@ public final class ForesightEdgesTest {
         CHECK.due("zero told: none of 0", Check.told("zero;" + text + all).ideal(0), 2);
         CHECK.due("one advised of two", Check.told(text + "advise 0 0 0;").ideal(0), 5);
         CHECK.due("zero told, one advised of two", Check.told("zero;" + text + "advise 0 0 0;").ideal(0), 4);
+        CHECK.due("zero told, the other of two", Check.told("zero;" + text + "advise 0 1 1;").ideal(0), 4);
+        CHECK.due("two of three like ones advised, the first is not",
+                Check.told("guest 3;page 0 0 5 0 0 0;page 0 1 5 0 0 0;page 0 2 5 0 0 0;advise 0 1 2;").ideal(0), 2);
+        CHECK.due("two of three, the one between is not",
+                Check.told("guest 3;page 0 0 5 0 0 0;page 0 1 5 0 0 0;page 0 2 5 0 0 0;advise 0 0 0;advise 0 2 2;").ideal(0), 2);
+        CHECK.due("one of two like ones, the last",
+                Check.told("guest 2;page 0 0 5 0 0 0;page 0 1 5 0 0 0;advise 0 1 1;").ideal(0), 2);
         GuestPages x = Check.told(text + all);
         CHECK.due("lost", x.ideal(1), 1);
         x.scan(12);
@@ -241,6 +250,25 @@ public final class ForesightEdgesTest {
         CHECK.due("of nothing", y.ideal(0), 0);
         CHECK.due("nothing lost", y.ideal(1), 0);
         CHECK.due("no risk", y.ideal(2), -1);
+    }
+
+    /** More pages than frames: the last pages of all count as the first do. */
+    private static void idealOfMorePagesThanFrames() {
+        GuestPages x = Check.told("frames 3;guest 12;guest 12 1;page 1 10 1 0 0 0;page 1 11 1 0 0 0;page 0 0 1 0 0 0;"
+                + "advise 0 0 11;advise 1 0 11;");
+        CHECK.due("one by realm", x.ideal(0), 2);
+        CHECK.due("one lost", x.ideal(1), 1);
+        CHECK.due("two are merged then", x.then(60, 1), 2);
+        CHECK.due("two are used then", x.then(60, 0), 2);
+        CHECK.due("one waits then", x.then(60, 2), 1);
+        x.scan(48);
+        CHECK.due("two are merged", x.count(5), 2);
+        CHECK.due("in one frame", x.count(2), 1);
+        CHECK.due("of realm 1", x.knot(1, true, -1, 0), 1);
+        CHECK.due("none of realm 0", x.knot(0, true, -1, 0), 0);
+        CHECK.due("absent", x.count(6), 21);
+        CHECK.due("advised", x.count(7), 24);
+        CHECK.due("none lost", x.ideal(1), 0);
     }
 
     // RISK: with at least how many CELLS WRITTEN the last one can't be; none, if that can't come
@@ -403,6 +431,41 @@ public final class ForesightEdgesTest {
         GuestPages y = Check.told("rate 1 4;guest 2;page 0 0 1 0 0 0;page 0 1 2 0 0 0;advise 0 0 1;");
         y.rate(4);
         CHECK.due("of like ones the least", y.toRate(1, 0), 1);
+    }
+
+    private static void toRateDue(String text, int least, int most, int ticks, int rate, int used) {
+        GuestPages x = Check.told("rate " + least + " " + most + ";" + text);
+        int best = -1;
+        int fewest = 0;
+        int work = 0;
+        for (int r = least; r <= most; r++) {
+            GuestPages y = Check.told("rate " + least + " " + most + ";" + text);
+            y.rate(r);
+            y.ticks(ticks);
+            int n = y.count(1);
+            if (best == -1 || n < fewest || n == fewest && y.count(13) < work) {
+                best = r;
+                fewest = n;
+                work = y.count(13);
+            }
+        }
+        CHECK.due("by acts: " + text, best, rate);
+        CHECK.due("frames by acts: " + text, fewest, used);
+        CHECK.asks("to rate: " + text, x, () -> x.toRate(ticks, 0), rate);
+        CHECK.asks("frames: " + text, x, () -> x.toRate(ticks, 1), used);
+    }
+
+    // fewest FRAMES, of like ones least WORK is done, then the least
+    private static void toRateOfLikeOnes() {
+        // 4 and 5 lead to as few frames; by 5 less work is done, as RATE is half of it in time
+        toRateDue("zero;guest 4;page 0 0 1 0 0 0;page 0 1 2 0 0 0;page 0 3 1 0 0 0;advise 0 0 3;", 1, 6, 3, 5, 2);
+        toRateDue("guest 4;page 0 0 1 0 0 0;page 0 2 1 0 0 0;page 0 3 2 0 0 0;advise 0 0 3;", 2, 9, 2, 5, 2);
+        // work, not how many are scanned
+        toRateDue("guest 4;page 0 0 1 0 0 0;page 0 1 2 0 0 0;page 0 2 1 0 0 0;advise 0 0 3;", 2, 7, 2, 4, 2);
+        toRateDue("zero;guest 2;page 0 0 0 0 0 0;advise 0 0 1;", 3, 7, 12, 3, 0);
+        // less work with more frames doesn't count
+        toRateDue("guest 4;page 0 1 1 0 0 0;page 0 2 0 0 0 0;page 0 3 1 0 0 0;advise 0 0 3;", 1, 8, 2, 4, 2);
+        toRateDue("guest 4;page 0 0 1 0 0 0;page 0 3 1 0 0 0;advise 0 0 3;", 2, 9, 2, 4, 1);
     }
 
     // NOTED (at most 8); NONE (STATUS 2): there are 8, ticks not 0 to 20, used not 0 to 48

@@ -271,6 +271,12 @@ public final class QuestionEdgesTest {
             }
             due.remove(Integer.valueOf(2 * gone));
             chainDue(x, due);
+            if (gone < 4) {
+                x.drop(0, 8);
+                x.drop(0, 9);
+                due.remove(Integer.valueOf(8));
+                chainDue(x, due);
+            }
             // a pair that comes later is the last, in whichever frames
             x.copy(0, 10, 0, due.get(0));
             x.copy(0, 11, 0, due.get(0));
@@ -383,6 +389,16 @@ public final class QuestionEdgesTest {
         CHECK.noSuch("no 48th", y, () -> y.like(1, 5, 47));
         GuestPages z = Check.told("guest 1;");
         CHECK.due("alone", z.like(0, 0, -1), 0);
+        // by what the page's cells are now, not as they were
+        GuestPages v = Check.told("guest 4;page 0 0 1 0 0 0;page 0 1 2 0 0 0;page 0 2 1 0 0 0;");
+        v.then(3, 0);
+        CHECK.due("one", v.like(0, 0, -1), 1);
+        v.write(0, 0, 0, 2);
+        CHECK.due("one", v.like(0, 0, -1), 1);
+        CHECK.due("another one", v.like(0, 0, 0), 1);
+        v.drop(0, 1);
+        CHECK.due("none", v.like(0, 0, -1), 0);
+        CHECK.due("absent", v.like(0, 1, 0), 3);
         // each cell counts
         for (int cell = 0; cell < 4; cell++) {
             GuestPages w = Check.told("guest 2;page 0 0 1 1 1 1;page 0 1 1 1 1 1;");

@@ -12,6 +12,8 @@ public final class ScanEdgesTest {
         stableKnotsLeave();
         candidatesOfAllPages();
         candidatesFallingToo();
+        leavesFarDown();
+        lastOfTheLeftFarDown();
         stableKnotsOfAllPages();
         aChainOfAllPages();
         realmsApart();
@@ -20,15 +22,19 @@ public final class ScanEdgesTest {
         cursorWithoutAny();
         roundEndsWhenOneIsSought();
         rateAtARoundsEnd();
+        rateByHowManyWereScanned();
         yieldIsOfThree();
+        everIsOfAllRounds();
         absentFirst();
         mergedAlready();
         restsAheadOfZeroed();
         restsAheadOfJoined();
+        zeroedHasNoSum();
         zeroedByAllCells();
         joinedAheadOfBusy();
         joinsBelowShare();
         joinsWhereMostAre();
+        joinsOneOfManyKnots();
         busyAheadOfHidden();
         sumsAtTheirEdges();
         hiddenAtTheRootAndBelow();
@@ -329,6 +335,59 @@ public final class ScanEdgesTest {
         knotDue(x, false, 0, 46, 46);
     }
 
+    /** Forty-eight candidates in the order that is told, one after the other in the tree's way. */
+    private static GuestPages fortyEight(int... cells) {
+        GuestPages x = Check.told("frames 48;rate 16 16;" + ALL);
+        for (int i = 0; i < 48; i++) {
+            x.write(i / 12, i % 12, 0, cells[i] / 16);
+            x.write(i / 12, i % 12, 1, cells[i] % 16);
+        }
+        x.scan(96);
+        CHECK.due("all wait", x.count(8), 48);
+        return x;
+    }
+
+    // the leftmost of all to its right: as far down as can be
+    private static void leavesFarDown() {
+        int[] cells = new int[48];
+        for (int i = 0; i < 48; i++) {
+            cells[i] = i == 0 ? 1 : i == 1 ? 0 : 49 - i;
+        }
+        // the root has 0 to the left, and 47, 46 .. 2 to the right, each to the left of the one ahead
+        GuestPages x = fortyEight(cells);
+        knotDue(x, false, 0, 1, 1);
+        knotDue(x, false, 1, 0, 0);
+        knotDue(x, false, 2, 47, 46);
+        knotDue(x, false, 47, 2, 1);
+        x.advise(0, 0, 0, false);
+        knotDue(x, false, 0, 1, 1);
+        knotDue(x, false, 1, 47, 0);
+        knotDue(x, false, 2, 46, 45);
+        knotDue(x, false, 46, 2, 1);
+        for (int p = 47; p > 2; p--) {
+            x.advise(p / 12, p % 12, p % 12, false);
+            knotDue(x, false, 1, p - 1, 0);
+            CHECK.due("so many", x.knot(0, false, -1, 0), p - 1);
+        }
+        x.advise(0, 2, 2, false);
+        knotDue(x, false, 0, 1, 0);
+    }
+
+    /** To the left of the root each one is to the right of the one ahead: behind the last of these comes the root. */
+    private static void lastOfTheLeftFarDown() {
+        int[] cells = new int[48];
+        for (int i = 0; i < 48; i++) {
+            cells[i] = i == 0 ? 47 : i - 1;
+        }
+        GuestPages x = fortyEight(cells);
+        for (int i = 0; i < 47; i++) {
+            knotDue(x, false, i, i + 1, i + 1);
+        }
+        knotDue(x, false, 47, 0, 0);
+        CHECK.noSuch("no 49th", x, () -> x.knot(0, false, 48, 1));
+        CHECK.due("all", x.knot(0, false, -1, 0), 48);
+    }
+
     private static void stableKnotsOfAllPages() {
         GuestPages x = Check.told("frames 48;share 2;rate 16 16;" + ALL);
         for (int i = 0; i < 48; i++) {
@@ -349,9 +408,11 @@ public final class ScanEdgesTest {
 
     private static void aChainOfAllPages() {
         GuestPages x = Check.told("frames 48;share 2;rate 16 16;" + ALL);
+        StringBuilder text = new StringBuilder();
         for (int i = 0; i < 48; i++) {
-            x.write(i / 12, i % 12, 3, 1);
+            text.append("write").append(i / 12).append(' ').append(i % 12).append(" 3 1;");
         }
+        CHECK.due("all are written", Check.orders(x, text.toString()), 48);
         x.scan(48);
         CHECK.due("twenty-four pairs", x.scan(48), 24);
         CHECK.due("one knot", x.count(9), 1);
@@ -361,6 +422,26 @@ public final class ScanEdgesTest {
             CHECK.due("two in each", x.frame(2 * i, -1), 2);
         }
         CHECK.noSuch("no 25th", x, () -> x.chain(0, 24));
+        // the last, and one far behind, leave it and come again
+        String was = Snap.of(x);
+        x.drop(3, 10);
+        x.drop(3, 11);
+        CHECK.due("twenty-three", x.chain(0, -1), 23);
+        CHECK.due("the last", x.chain(0, 22), 44);
+        x.drop(3, 4);
+        CHECK.due("one is left in it", x.frame(40, -1), 1);
+        x.drop(3, 5);
+        CHECK.due("twenty-two", x.chain(0, -1), 22);
+        CHECK.due("the one ahead of it", x.chain(0, 19), 38);
+        CHECK.due("the one behind it", x.chain(0, 20), 42);
+        x.drop(3, 7);
+        x.copy(3, 11, 0, 0);
+        CHECK.due("joins the last", x.scan(48), 1);
+        CHECK.due("the only one with room", x.page(3, 11, 0), 42);
+        for (int i = 0; i < 7; i++) {
+            x.undo();
+        }
+        CHECK.due("all as it was", Snap.of(x).equals(was), true);
         // the first four of the chain leave it
         for (int i = 0; i < 8; i++) {
             x.drop(0, i);
@@ -527,6 +608,77 @@ public final class ScanEdgesTest {
         rateDue(7, 7, 7, 4, 0, 7);
     }
 
+    // how many were SCANNED in it: not how far the CURSOR came, not how many are ADVISED
+    private static void rateByHowManyWereScanned() {
+        GuestPages x = Check.told("zero;rate 1 16;guest 12;page 0 8 0 0 0 0;advise 0 8 11;");
+        x.rate(3);
+        CHECK.due("one of four", x.scan(4), 1);
+        CHECK.due("the cursor", x.count(19), 12);
+        x.scan(1);
+        CHECK.due("twice as much", x.count(10), 6);
+        GuestPages y = Check.told("zero;rate 1 16;guest 12;page 0 8 0 0 0 0;advise 0 7 11;");
+        y.rate(3);
+        CHECK.due("one of five", y.scan(5), 1);
+        y.scan(1);
+        CHECK.due("as it was", y.count(10), 3);
+        // advised behind the scans: none of these was scanned
+        GuestPages z = Check.told("zero;rate 1 16;guest 12;page 0 11 0 0 0 0;advise 0 8 11;");
+        z.rate(3);
+        z.scan(4);
+        z.advise(0, 0, 7, true);
+        z.scan(1);
+        CHECK.due("twice as much", z.count(10), 6);
+        // advised no more: they were scanned
+        GuestPages w = Check.told("zero;rate 1 16;guest 12;page 0 11 0 0 0 0;advise 0 7 11;");
+        w.rate(3);
+        w.scan(5);
+        w.advise(0, 7, 9, false);
+        w.scan(1);
+        CHECK.due("as it was", w.count(10), 3);
+        // absent, merged and resting ones were scanned, too
+        GuestPages v = Check.told("smart;rate 1 16;guest 5;page 0 0 1 0 0 0;page 0 1 1 0 0 0;page 0 2 5 0 0 0;advise 0 0 4;");
+        v.scan(20);
+        CHECK.due("it rests by the next", v.page(0, 2, 6), 1);
+        v.rate(v.count(10) == 3 ? 4 : 3);
+        int rate = v.count(10);
+        v.drop(0, 1);
+        v.copy(0, 1, 0, 0);
+        CHECK.due("one joins of five", v.scan(5), 1);
+        CHECK.due("it rested", v.page(0, 2, 3), 3);
+        CHECK.due("half, by the round ahead", v.count(10), rate / 2);
+        v.scan(1);
+        CHECK.due("as it was: one of five", v.count(10), rate / 2);
+    }
+
+    // what is counted ever goes on when a ROUND ends
+    private static void everIsOfAllRounds() {
+        GuestPages x = Check.told("zero;rate 1 2;guest 5;page 0 0 1 0 0 0;page 0 1 1 0 0 0;page 0 2 1 0 0 0;page 0 3 0 0 0 0;"
+                + "page 0 4 7 0 0 0;advise 0 0 4;");
+        x.scan(10);
+        x.write(0, 0, 0, 5);
+        int[] ever = {12, 13, 14, 15, 16, 17, 18};
+        // page 1: 4 among candidates; 2: 4 stable; 4: 1 stable
+        int[] due = {0, 9, 10, 1, 1, 1, 1};
+        for (int i = 0; i < ever.length; i++) {
+            CHECK.due("count " + ever[i], x.count(ever[i]), due[i]);
+        }
+        CHECK.due("rounds", x.count(11), 1);
+        for (int n = 0; n < 15; n++) {
+            int[] was = new int[ever.length];
+            for (int i = 0; i < ever.length; i++) {
+                was[i] = x.count(ever[i]);
+            }
+            x.scan(1);
+            for (int i = 0; i < ever.length; i++) {
+                CHECK.due("count " + ever[i] + " is no less", x.count(ever[i]) >= was[i], true);
+            }
+        }
+        CHECK.due("rounds", x.count(11), 4);
+        CHECK.due("split off ever", x.count(18), 1);
+        CHECK.due("zeroed ever", x.count(17), 1);
+        CHECK.due("scanned ever", x.count(14), 25);
+    }
+
     // YIELD (how many were ZEROED, JOINED, PAIRED in it)
     private static void yieldIsOfThree() {
         GuestPages x = Check.told("zero;guest 5;page 0 0 1 0 0 0;page 0 1 1 0 0 0;page 0 2 1 0 0 0;page 0 3 0 0 0 0;"
@@ -607,6 +759,27 @@ public final class ScanEdgesTest {
         pageDue(x, 2, 3, 686 % 64, 3, 0);
         CHECK.due("then it joins", x.scan(3), 1);
         pageDue(x, 2, 5, 686 % 64, 0, 0);
+    }
+
+    // has no SUM any more: that page, whichever frame it lay in
+    private static void zeroedHasNoSum() {
+        GuestPages x = Check.told("zero;guest 4;page 0 3 1 0 0 0;page 0 2 2 0 0 0;page 0 0 3 0 0 0;advise 0 0 3;");
+        x.scan(4);
+        pageDue(x, 0, 6, 343 * 3 % 64, 0, 0);
+        pageDue(x, 1, 1, -1, 0, 0);
+        pageDue(x, 2, 6, 343 * 2 % 64, 0, 0);
+        pageDue(x, 3, 6, 343 % 64, 0, 0);
+        x.write(0, 2, 0, 0);
+        CHECK.due("one", x.scan(4), 1);
+        pageDue(x, 0, 9, 343 * 3 % 64, 1, 0);
+        pageDue(x, 2, 4, -1, 0, 0);
+        pageDue(x, 3, 9, 343 % 64, 1, 0);
+        x.write(0, 3, 0, 0);
+        CHECK.due("one", x.scan(4), 1);
+        pageDue(x, 0, 9, 343 * 3 % 64, 2, 0);
+        pageDue(x, 2, 1, -1, 0, 0);
+        pageDue(x, 3, 4, -1, 0, 0);
+        CHECK.due("it was no pair", x.count(16), 0);
     }
 
     // 4 ZEROED: ZERO is told, and its CELLS are 0
@@ -701,6 +874,36 @@ public final class ScanEdgesTest {
         x.copy(1, 1, 0, 3);
         x.scan(14);
         CHECK.due("one, two, four: the second", x.page(1, 1, 0), 4);
+    }
+
+    // the search has FOUND a KNOT: that one of many, in whose CHAIN there is room
+    private static void joinsOneOfManyKnots() {
+        int[] cells = {5, 3, 7, 9, 1};
+        StringBuilder text = new StringBuilder("share 3;guest 10;guest 6;advise 0 0 9;advise 1 0 5;");
+        for (int i = 0; i < 5; i++) {
+            text.append("page 0 ").append(i).append(' ').append(cells[i]).append(" 0 0 0;");
+            text.append("page 0 ").append(i + 5).append(' ').append(cells[i]).append(" 0 0 0;");
+        }
+        GuestPages x = Check.told(text.toString());
+        x.scan(16);
+        CHECK.due("five pairs", x.scan(16), 5);
+        CHECK.due("five knots", x.count(9), 5);
+        for (int i = 0; i < 5; i++) {
+            x.copy(1, i, 0, i);
+            CHECK.due("it joins", x.scan(16), 1);
+            CHECK.due("where its like lie", x.page(1, i, 0), x.page(0, i, 0));
+            CHECK.due("joined", x.page(1, i, 3), 5);
+            CHECK.due("three", x.frame(x.page(0, i, 0), -1), 3);
+            // that is full now: another one can't join
+            x.copy(1, 5, 0, i);
+            CHECK.due("busy first", x.scan(16), 0);
+            CHECK.due("busy", x.page(1, 5, 3), 6);
+            CHECK.due("then it waits", x.scan(16) + x.page(1, 5, 3), 9);
+            x.drop(1, 5);
+            x.scan(16);
+        }
+        CHECK.due("joined ever", x.count(15), 5);
+        CHECK.due("five knots still", x.count(9), 5);
     }
 
     // 6 BUSY, ahead of 7 HIDDEN
