@@ -2,19 +2,22 @@ import java.lang.reflect.Field;
 import java.lang.reflect.Method;
 import java.lang.reflect.Modifier;
 import java.util.Arrays;
+import java.util.NoSuchElementException;
 import java.util.TreeSet;
 
 /** The public face is the document's, and no other member can be seen. */
 public final class FaceTest {
+    /** Behind each: the exceptions that it tells, N for NoSuchElementException, I for IllegalArgumentException. */
     private static final String[] FACE = {
-        "int feed(int,int,int,int,int)", "int machine(int)", "int orders(int)", "int fault()", "int count(int)",
-        "int guest(int,int)", "int read(int,int,int)", "int page(int,int,int)", "int frame(int,int)",
-        "int chain(int,int)", "int knot(int,boolean,int,int)", "int like(int,int,int)", "int write(int,int,int,int)",
-        "int copy(int,int,int,int)", "int drop(int,int)", "int advise(int,int,int,boolean)", "int scan(int)",
-        "int ticks(int)", "int rate(int)", "int undo()", "int then(int,int)", "int quiet()", "int merges(int,int)",
-        "int ideal(int)", "int probe(int,int,int,int)", "int toAdvise(int,int)", "int toRate(int,int)",
-        "int note(int,int)", "int guess(int,int,int,int)", "int look(int,int,int,int)", "void forget()",
-        "int dirt(int,int,int,int,int)", "int years(int,int,int)", "void image()", "boolean restore()"};
+        "int feed(int,int,int,int,int)", "int machine(int) I", "int orders(int) I", "int fault()",
+        "int count(int) N", "int guest(int,int) N", "int read(int,int,int) N", "int page(int,int,int) N",
+        "int frame(int,int) N", "int chain(int,int) N", "int knot(int,boolean,int,int) N", "int like(int,int,int) N",
+        "int write(int,int,int,int) N", "int copy(int,int,int,int) N", "int drop(int,int) N",
+        "int advise(int,int,int,boolean) N", "int scan(int)", "int ticks(int)", "int rate(int)", "int undo()",
+        "int then(int,int) NI", "int quiet()", "int merges(int,int) N", "int ideal(int) N",
+        "int probe(int,int,int,int) NI", "int toAdvise(int,int) NI", "int toRate(int,int) NI", "int note(int,int)",
+        "int guess(int,int,int,int) N", "int look(int,int,int,int) N", "void forget()",
+        "int dirt(int,int,int,int,int) NI", "int years(int,int,int) NI", "void image()", "boolean restore()"};
 
     private static int wrong = 0;
 
@@ -56,7 +59,13 @@ public final class FaceTest {
         for (Class<?> type : method.getParameterTypes()) {
             face.append(face.charAt(face.length() - 1) == '(' ? "" : ",").append(type);
         }
-        return face.append(')').toString();
+        face.append(')');
+        for (Class<?> told : method.getExceptionTypes()) {
+            boolean none = told == NoSuchElementException.class;
+            boolean illegal = told == IllegalArgumentException.class;
+            face.append(face.charAt(face.length() - 1) == ')' ? " " : "").append(none ? "N" : illegal ? "I" : told.getName());
+        }
+        return face.toString();
     }
 
     private static void say(boolean good, String what) {
